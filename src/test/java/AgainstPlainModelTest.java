@@ -18,6 +18,8 @@ public final class AgainstPlainModelTest {
     private final int addresses;
     private final int persons;
     private final int hurry;
+    /** So many orders that there is no room for more. */
+    private final boolean crowded;
     private long seed;
     private long today = 0;
 
@@ -28,6 +30,13 @@ public final class AgainstPlainModelTest {
         this.addresses = run % 4 == 0 ? 99 : 2 + run % 7;
         this.persons = 1 + run % 3;
         this.hurry = run % 5 == 0 ? 200 : 4;
+        this.crowded = run % 6 == 1;
+        if (run % 11 == 3) {
+            // The last days, behind which no clock goes.
+            today = 19970;
+            program.tick(today);
+            model.tick(today);
+        }
     }
 
     public static void main(String[] args) {
@@ -73,7 +82,7 @@ public final class AgainstPlainModelTest {
     }
 
     private int number() {
-        return from(1, 60);
+        return from(1, crowded ? 202 : 60);
     }
 
     private int kind() {
@@ -81,7 +90,7 @@ public final class AgainstPlainModelTest {
     }
 
     private void call(int call) {
-        switch (below(13)) {
+        switch (crowded && below(2) == 0 ? 0 : below(13)) {
             case 0: case 1: case 2: case 3: order(call); break;
             case 4: proof(call); break;
             case 5: withdraw(call); break;

@@ -6,6 +6,7 @@ public final class Promise10ToldTest {
         inTheirOrder();
         whichOrders();
         onTheClocksDay();
+        full();
         refusals();
         check.end();
     }
@@ -80,6 +81,24 @@ public final class Promise10ToldTest {
         isTold(x, 0, 1);
         x.withdraw(1, 7);
         isTold(x, 0);
+    }
+
+    private static void full() {
+        OrderRows2 x = new OrderRows2();
+        for (int n = 1; n <= 200; n++) {
+            x.order(n % 3, 1, 49, 2, 0, 9);
+            x.proof(n, true, 0);
+        }
+        for (int i = 0; i <= 99; i++) {
+            check.due("told(49, " + 2 * i + ")", x.told(49, 2 * i), 2 * i + 1);
+        }
+        check.due("the last", x.told(49, 199), 200);
+        check.due("none behind it", x.told(49, 200), 0);
+        check.due("the first", x.told(49, 0), 1);
+        check.due("none before it", x.told(49, -1), 0);
+        x.withdraw(1, 0);
+        check.due("one less: the last", x.told(49, 198), 200);
+        check.due("one less: none behind it", x.told(49, 199), 0);
     }
 
     private static void refusals() {

@@ -4,6 +4,7 @@ public final class Promise1NewObjectTest {
 
     public static void main(String[] args) {
         hasNoOrders();
+        hasNoNumberAtAll();
         clockIsZero();
         objectsAreApart();
         check.end();
@@ -23,6 +24,18 @@ public final class Promise1NewObjectTest {
             check.due("rank(" + kind + ")", x.rank(kind, 0), 0);
         }
         check.due("first order", x.order(0, 1, 0, 2, 0, 5), 1);
+    }
+
+    private static void hasNoNumberAtAll() {
+        OrderRows2 x = new OrderRows2();
+        for (int number = -1; number <= 201; number++) {
+            check.due("extend(" + number + ")", x.extend(number, 0), Check.UNKNOWN);
+        }
+        for (int i = 0; i <= 99; i++) {
+            check.due("ring(" + i + ")", x.ring(i), 0);
+            check.due("told(" + i / 2 + ", " + i % 2 + ")", x.told(i / 2, i % 2), 0);
+        }
+        check.due("none to lapse", x.tick(20000), 0);
     }
 
     private static void clockIsZero() {

@@ -10,6 +10,7 @@ public final class Promise3ProofTest {
         state();
         clockIsSetFirst();
         lastDay();
+        behindItsSpan();
         check.end();
     }
 
@@ -101,5 +102,21 @@ public final class Promise3ProofTest {
         check.due("bad, 14 days behind", z.proof(1, false, 14), 0);
         check.due("over from the clock's day", z.effective(1, 0, 0, 14), 1);
         check.due("not before", z.effective(1, 0, 0, 13), 2);
+    }
+
+    /** An order whose last day is behind the clock is not over by that. */
+    private static void behindItsSpan() {
+        for (long t : new long[] {6, 14}) {
+            OrderRows2 x = new OrderRows2();
+            x.order(0, 1, 0, 2, 3, 5);
+            check.due("good on " + t, x.proof(1, true, t), 1);
+            check.due("good again", x.proof(1, true, t), Check.STATE);
+            check.due("its last day stays", x.effective(1, 0, 0, 5), 2);
+            OrderRows2 y = new OrderRows2();
+            y.order(0, 1, 0, 2, 3, 5);
+            check.due("bad on " + t, y.proof(1, false, t), 0);
+            check.due("bad again", y.proof(1, false, t), Check.STATE);
+            check.due("its last day stays, too", y.effective(1, 0, 0, 5), 2);
+        }
     }
 }

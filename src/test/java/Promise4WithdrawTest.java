@@ -5,6 +5,7 @@ public final class Promise4WithdrawTest {
     public static void main(String[] args) {
         days();
         overFromTheClocksDay();
+        daysNotInForceByThat();
         unknown();
         outside();
         state();
@@ -39,6 +40,27 @@ public final class Promise4WithdrawTest {
         OrderRows2 held = new OrderRows2();
         held.order(4, 1, -1, 0, 3, 9);
         check.due("a held one", held.withdraw(1, 5), 5);
+    }
+
+    /** The answer is how many days effective() loses by the withdrawal, one by one. */
+    private static void daysNotInForceByThat() {
+        for (int t = 0; t <= 8; t++) {
+            OrderRows2 x = withOrder(3, 6);
+            int before = daysInForce(x);
+            check.due("days before", before, 4);
+            int lost = x.withdraw(1, t);
+            check.due("withdrawn on " + t, before - daysInForce(x), lost);
+        }
+    }
+
+    private static int daysInForce(OrderRows2 x) {
+        int days = 0;
+        for (int day = 0; day <= 10; day++) {
+            if (x.effective(1, 0, 0, day) == 2) {
+                days++;
+            }
+        }
+        return days;
     }
 
     private static void overFromTheClocksDay() {

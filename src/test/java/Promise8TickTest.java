@@ -7,6 +7,7 @@ public final class Promise8TickTest {
         whichOrdersLapse();
         far();
         otherCallsSetTheClock();
+        howManyAtOnce();
         refusals();
         check.end();
     }
@@ -70,6 +71,21 @@ public final class Promise8TickTest {
         x.proof(2, true, 31);
         check.due("lapsed by proof already", x.tick(31), 0);
         check.due("and over from day 31", x.effective(5, 0, 0, 31), 5);
+    }
+
+    private static void howManyAtOnce() {
+        OrderRows2 x = new OrderRows2();
+        for (int day = 0; day <= 9; day++) {
+            x.tick(day);
+            for (int n = 0; n < 20; n++) {
+                x.order(n % 9, 1, n % 50, 2, 0, 50);
+            }
+        }
+        check.due("tick(14)", x.tick(14), 0);
+        check.due("tick(15)", x.tick(15), 20);
+        check.due("over two days", x.tick(17), 40);
+        check.due("all others", x.tick(20000), 140);
+        check.due("none", x.tick(20000), 0);
     }
 
     private static void refusals() {

@@ -4,6 +4,8 @@ public final class Promise9ExtendTest {
 
     public static void main(String[] args) {
         later();
+        untilTheLastDay();
+        inForceAgain();
         notLater();
         behindItsSpan();
         refusals();
@@ -31,6 +33,28 @@ public final class Promise9ExtendTest {
         check.due("a proved one", y.extend(1, 30), 1);
         y.tick(30);
         check.due("told", y.told(0, 0), 1);
+    }
+
+    private static void untilTheLastDay() {
+        OrderRows2 x = withOrder();
+        check.due("until 19999", x.extend(1, 19999), 1);
+        check.due("day 20000", x.effective(1, 0, 0, 20000), 1);
+        check.due("until 20000", x.extend(1, 20000), 1);
+        check.due("until 20000 again", x.extend(1, 20000), 0);
+        check.due("until 20001", x.extend(1, 20001), Check.OUTSIDE);
+        check.due("day 20000", x.effective(1, 0, 0, 20000), 2);
+        check.due("all its days", x.withdraw(1, 0), 19998);
+    }
+
+    /** The days between the old last day and the new one are in force, and no day before FROM. */
+    private static void inForceAgain() {
+        OrderRows2 x = withOrder();
+        x.tick(11);
+        x.extend(1, 12);
+        for (int day = 0; day <= 13; day++) {
+            check.due("day " + day, x.effective(1, 0, 0, day), day >= 3 && day <= 12 ? 2 : 1);
+        }
+        check.due("withdrawn on 11", x.withdraw(1, 11), 2);
     }
 
     private static void notLater() {

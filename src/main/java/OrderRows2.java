@@ -33,7 +33,7 @@ public final class OrderRows2 {
         rankOfKind = new int[KINDS];
         // One place more than there are addresses: the last step of the longest way comes to one again.
         path = new int[LAST_ADDRESS + 1];
-        ringTold = new int[LAST_ADDRESS + 1];
+        ringTold = new int[LAST_ADDRESS];
         ringLength = 0;
         clock = 0;
     }
@@ -126,7 +126,7 @@ public final class OrderRows2 {
         if (!isKind(kind) || r < 0 || r > GREATEST_RANK) {
             return OUTSIDE;
         }
-        int before = rankOfKind[kind];
+        int before = rankOf(kind);
         rankOfKind[kind] = r;
         return before;
     }
@@ -158,11 +158,11 @@ public final class OrderRows2 {
             return UNKNOWN;
         }
         int before = 0;
-        for (int n = 0; n < orders.size(); n++) {
-            Order order = orders.get(n);
-            if (order.who == sender && order.isProved && order.sendsOn() && order.isInForce(clock)) {
+        for (int number = 1; number <= orders.size(); number++) {
+            Order order = find(number);
+            if (order != null && order.isToldTo(sender, clock)) {
                 if (before == i) {
-                    return n + 1;
+                    return number;
                 }
                 before++;
             }
@@ -203,8 +203,9 @@ public final class OrderRows2 {
     private int moveClock(long t) {
         clock = t;
         int lapsed = 0;
-        for (int n = 0; n < orders.size(); n++) {
-            if (orders.get(n).lapseIfDue(clock)) {
+        for (int number = 1; number <= orders.size(); number++) {
+            Order order = find(number);
+            if (order != null && order.lapseIfDue(clock)) {
                 lapsed++;
             }
         }
@@ -214,20 +215,24 @@ public final class OrderRows2 {
     /** The order that decides at an address, or null when there is none. */
     private Order strongest(int address, int person, int itemClass, long day) {
         Order best = null;
-        for (int n = 0; n < orders.size(); n++) {
-            Order order = orders.get(n);
-            // Of equal ranks the later order wins: the list is in the order of the numbers.
-            if (order.concerns(address, person, itemClass) && order.isInForce(day)
-                    && (best == null || rankOfKind[order.kind] >= rankOfKind[best.kind])) {
+        for (int number = 1; number <= orders.size(); number++) {
+            Order order = find(number);
+            // Of equal ranks the later order wins: the loop goes from the least number to the greatest.
+            if (order != null && order.concerns(address, person, itemClass) && order.isInForce(day)
+                    && (best == null || rankOf(order.kind) >= rankOf(best.kind))) {
                 best = order;
             }
         }
         return best;
     }
 
+    private int rankOf(int kind) {
+        return isKind(kind) ? rankOfKind[kind] : 0;
+    }
+
     /** The step of the path at which an address was come to; 'steps' when it was not. */
     private int stepAt(int address, int steps) {
-        for (int step = 0; step < steps; step++) {
+        for (int step = 0; step < steps && step < path.length; step++) {
             if (path[step] == address) {
                 return step;
             }
@@ -236,10 +241,11 @@ public final class OrderRows2 {
     }
 
     private void tellRing(int first, int end) {
-        for (int step = first; step < end; step++) {
-            ringTold[step - first] = path[step];
+        ringLength = 0;
+        for (int step = Math.max(first, 0); step < end && step < path.length && ringLength < ringTold.length; step++) {
+            ringTold[ringLength] = path[step];
+            ringLength++;
         }
-        ringLength = end - first;
     }
 
     private static final class Order {
@@ -278,6 +284,10 @@ public final class OrderRows2 {
 
         boolean concerns(int address, int person, int itemClass) {
             return entry == address && (who == ALL_PERSONS || who == person) && kind % CLASSES == itemClass;
+        }
+
+        boolean isToldTo(int person, long clock) {
+            return who == person && isProved && sendsOn() && isInForce(clock);
         }
 
         boolean isInForce(long day) {
